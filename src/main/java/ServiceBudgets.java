@@ -1079,9 +1079,8 @@ public final class ServiceBudgets {
     }
 
     /**
-     * Looks for the least budget from 0 upwards, as a greater budget may be the worse one. What a callee does
-     * depends on its budget alone, and that is smaller than its caller's (an own time is at least 1): so all
-     * outcomes for smaller budgets are kept, and none has to be found twice.
+     * Looks for the least budget from 0 upwards. What a callee does depends on its budget alone, and that is smaller
+     * than its caller's (as an own time is at least 1): so the outcomes for all smaller budgets are there already.
      */
     private static final class BudgetSearch extends Serving {
         /** By budget and service; made when it is needed first, as many objects never ask for it. */
