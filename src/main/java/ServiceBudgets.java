@@ -336,7 +336,7 @@ public final class ServiceBudgets {
         return (set >> service & 1) != 0;
     }
 
-    /** What Float.floatToIntBits answers for a number that is not negative; LANGUAGE.md leaves that function out. */
+    /** What Float.floatToIntBits answers for 0 and up to below 2; LANGUAGE.md leaves that function out. */
     private static int bitsOf(float number) {
         double scaled = number;
         if (scaled <= 0.0) {
@@ -346,10 +346,6 @@ public final class ServiceBudgets {
         while (scaled < 1.0 && exponent > 1) {
             scaled = scaled * 2.0;
             exponent--;
-        }
-        while (scaled >= 2.0 && exponent < 254) {
-            scaled = scaled / 2.0;
-            exponent++;
         }
         if (scaled < 1.0) {
             return (int) (scaled * 8388608.0);

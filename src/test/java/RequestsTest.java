@@ -123,6 +123,26 @@ public final class RequestsTest {
         failure(name, x, 2, 0, 4, 6, 10);
         attempt(name, x, 0, 0, 1, 2, 1);
         attempt(name, x, 1, 2, 3, 3, 0);
+        ServiceBudgets y = Make.services(5, 3, 4, 1);
+        y.addCall(0, 1, 8, 1, 0);
+        y.addCall(0, 2, 2, 1, 2);
+        y.addCall(0, 3, 8, 1, 2);
+        Expect.yes("15 one try that succeeds", y.request(0, 9));
+        Expect.same("17 attempt(0, 3)", y.attempt(0, 3), 1);
+        y.fail(1);
+        y.fail(3);
+        Expect.no("15 the first one of kind 1 or 2", y.request(0, 40));
+        results("15 the first one of kind 1 or 2", y, 7, 0, 4, 3, 1, 4);
+        Expect.same("17 attempt(0, 3) then", y.attempt(0, 3), 0);
+        ServiceBudgets z = Make.services(2, 3, 1);
+        z.addCall(0, 1, 5, 1, 0);
+        z.addCall(1, 2, 5, 1, 0);
+        Expect.no("15 no failure of kind 1 or 2", z.request(0, 5));
+        Expect.same("15 its blame", z.result(4), 1);
+        Expect.no("15 another one", z.request(0, 2));
+        Expect.same("15 its blame then", z.result(4), 0);
+        Expect.yes("15 one that succeeds", z.request(0, 6));
+        Expect.same("15 no blame", z.result(4), NONE);
     }
 
     private static void deepBudgets() {
@@ -262,6 +282,11 @@ public final class RequestsTest {
         z.set(1, 0, 400);
         z.set(1, 1, 400);
         z.addCall(0, 1, 500, 1, 0);
+        ServiceBudgets w = Make.services(1, 100, 100);
+        w.set(1, 1, 400);
+        w.addCall(0, 1, 500, 1, 0);
+        w.addCall(1, 2, 500, 1, 0);
+        Expect.same("18 a callee that needs all of the greatest limit", w.leastBudget(0), 501);
         Expect.same("18 a great own time", y.leastBudget(1), 201);
         Expect.same("18 two great own times", z.leastBudget(0), 800);
     }

@@ -60,6 +60,12 @@ public final class ServicesAndCallsTest {
         x.undo();
         Expect.same("2 addService(9) again", x.addService(9), 11);
         Expect.same("2 service(11, 3)", x.service(11, 3), 3);
+        ServiceBudgets y = Make.many(1);
+        Expect.same("2 a service with strain", Make.execute(y, "a5;c1,0,5,1,0;d0;s1;"), 4);
+        Expect.same("2 service(1, 7)", y.service(1, 7), 1);
+        y.undo();
+        y.addService(5);
+        Expect.same("2 service(1, 7) of a new one", y.service(1, 7), 0);
     }
 
     // Promise 3
@@ -283,6 +289,16 @@ public final class ServicesAndCallsTest {
         for (int place = 0; place < 5; place++) {
             Expect.same("12 order(" + place + ") then", x.order(place), then[place]);
         }
+        x.removeCall(1);
+        x.removeCall(0);
+        int[] least = {2, 3, 0, 1, 4};
+        x.removeCall(0);
+        x.addCall(0, 2, 5, 1, 0);
+        x.addCall(0, 3, 5, 1, 2);
+        x.addCall(1, 0, 5, 1, 0);
+        for (int place = 0; place < 5; place++) {
+            Expect.same("12 order(" + place + ") after removeCall()", x.order(place), least[place]);
+        }
         Expect.same("12 order(-1)", x.order(-1), NONE);
         Expect.same("12 order(5)", x.order(5), NONE);
         Expect.same("12 order(greatest)", x.order(Integer.MAX_VALUE), NONE);
@@ -301,6 +317,10 @@ public final class ServicesAndCallsTest {
         for (int service = 0; service < 5; service++) {
             Expect.same("13 level(" + service + ")", x.level(service), due[service]);
         }
+        for (int k = 0; k < 5; k++) {
+            x.removeCall(x.calls() - 1);
+        }
+        Expect.same("13 level(0) without calls", x.level(0), 0);
         Expect.same("13 level(0) of a long chain", Make.chain(12).level(0), 11);
         Expect.noSuch("13 level(-1)", () -> x.level(-1));
         Expect.noSuch("13 level(5)", () -> x.level(5));

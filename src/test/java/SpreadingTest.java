@@ -355,6 +355,14 @@ public final class SpreadingTest {
         y.repair(2);
         y.steps(1);
         bestIs("under repair now", y, 3 + 9 * 6, 2, 0);
+        y.steps(2);
+        bestIs("another one is down instead", y, 3 + 9 * 6, 1, 0);
+        y.removeCall(1);
+        y.removeCall(0);
+        bestIs("other two without calls", y, 9 * 3 + 6, 0, 1);
+        y.repair(1);
+        y.steps(3);
+        bestIs("one is left", y, 9 * 3, 0);
     }
 
     /** Without calls the best order is by repair time divided by importance. */

@@ -305,5 +305,11 @@ public final class TextAndStateTest {
         Expect.same("41 it changes nothing", x.digest(), before);
         x.undo();
         Expect.same("41 after undo()", x.digest(), due(x, 2, 3));
+        ServiceBudgets y = Make.many(4);
+        for (int k = 0; k < 4; k++) {
+            y.fail(k);
+            y.set(3, k, 1 + 2 * k);
+            Expect.same("41 for two crews", y.digest(), due(y, 0, 4));
+        }
     }
 }
