@@ -12,6 +12,8 @@ public final class ModelTest {
     private Model model;
     private int most;
     private String name;
+    /** A calm run fails few services, so that its requests go far; the others live by failures and repairs. */
+    private boolean calm;
     private static long seen = 0;
 
     /** A call on the class or on the model. */
@@ -23,7 +25,8 @@ public final class ModelTest {
         for (int seed = 0; seed < RUNS; seed++) {
             new ModelTest().play(seed);
         }
-        System.out.println(seen + " answers compared");
+        Expect.yes(seen + " answers were compared", seen > 1_000_000);
+        System.out.println(seen + " answers were compared");
         Expect.finish();
     }
 
@@ -85,6 +88,7 @@ public final class ModelTest {
         name = "run " + seed;
         most = any(2, 12);
         int eager = any(10, 90);
+        calm = seed % 3 != 0;
         for (int k = 0; k < CALLS; k++) {
             boolean grow = model.services() < most && random.nextInt(100) < eager;
             if (grow) {
@@ -137,7 +141,12 @@ public final class ModelTest {
         int call = aCall();
         int n = random.nextInt(3) == 0 ? near(1, 50) : near(1, 3);
         int limit = near(1, 500);
-        switch (random.nextInt(14)) {
+        int kind = random.nextInt(calm ? 40 : 14);
+        // In a calm run what goes down, and what brings others down, is mostly taken back.
+        if (calm && kind >= 5 && kind <= 8 && random.nextInt(4) != 0) {
+            kind = model.down() == 0 ? 13 : 9;
+        }
+        switch (kind) {
             case 0:
                 compare("removeCall(" + call + ")", () -> real.removeCall(call), () -> model.removeCall(call));
                 break;
@@ -228,16 +237,19 @@ public final class ModelTest {
         int budget = random.nextBoolean() ? near(0, 1000) : near(0, 80);
         compare("request(" + service + ", " + budget + ")",
                 () -> number(real.request(service, budget)), () -> number(model.request(service, budget)));
+        if (outcome(() -> real.result(0)).equals("IllegalStateException")) {
+            return;
+        }
         for (int what = -1; what <= 6; what++) {
             int k = what;
             compare("result(" + k + ")", () -> real.result(k), () -> model.result(k));
         }
-        for (int k = -1; k <= 61; k++) {
+        for (int k = -1; k <= real.result(2) + 1; k++) {
             int f = k;
             int what = near(0, 3);
             compare("failure(" + f + ", " + what + ")", () -> real.failure(f, what), () -> model.failure(f, what));
         }
-        for (int k = -1; k <= 201; k++) {
+        for (int k = -1; k <= real.result(3) + 1; k++) {
             int t = k;
             int what = near(0, 3);
             compare("attempt(" + t + ", " + what + ")", () -> real.attempt(t, what), () -> model.attempt(t, what));
@@ -289,7 +301,8 @@ public final class ModelTest {
             case 0:
                 return "a" + aNumber() + ";";
             case 1:
-                return "c" + aNumber() + "," + aNumber() + "," + aNumber() * 37 + "," + any(1, 3) + "," + any(0, 2) + ";";
+                return "c" + aNumber() + "," + aNumber() + "," + aNumber() * 37 + "," + any(1, 3) + "," + any(0, 2)
+                        + ";";
             case 2:
                 return "d" + aNumber() + ";";
             case 3:

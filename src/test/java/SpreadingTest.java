@@ -277,6 +277,11 @@ public final class SpreadingTest {
         x.removeCall(0);
         Expect.same("29 without the call", x.recoveryStart(4, 0), 0);
         Expect.same("28 without the call", x.recoveryTime(4), 4);
+        ServiceBudgets w = Make.many(2);
+        w.addCall(1, 0, 5, 1, 0);
+        w.fail(0);
+        w.fail(1);
+        Expect.same("29 behind the first one", w.recoveryStart(4, 1), 3);
         ServiceBudgets y = Make.chain(12);
         for (int k = 0; k < 12; k++) {
             y.fail(k);

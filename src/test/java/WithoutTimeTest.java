@@ -64,6 +64,7 @@ public final class WithoutTimeTest {
         Expect.same("34 cut(0, 12, 0)", x.cut(0, 12, 0), NONE);
         Expect.same("33 cuts(3, 1)", x.cuts(3, 1), 1);
         Expect.same("34 cut(3, 1, 0)", x.cut(3, 1, 0), 8);
+        Expect.same("33 cuts(3, 2)", x.cuts(3, 2), 0);
         Expect.noSuch("33 service -1", () -> x.cuts(-1, 1));
         Expect.noSuch("33 service 5 comes ahead of the size", () -> x.cuts(5, 0));
         Expect.badArgument("33 size 0", () -> x.cuts(0, 0));
@@ -107,6 +108,9 @@ public final class WithoutTimeTest {
         ServiceBudgets z = Make.chain(12);
         Expect.same("33 each of a chain", z.cuts(0, 1), 12);
         Expect.same("34 the last of a chain", z.cut(0, 1, 11), 1 << 11);
+        Expect.same("34 none behind the last of a chain", z.cut(0, 1, 12), NONE);
+        Expect.same("34 far behind it", z.cut(0, 1, Integer.MAX_VALUE), NONE);
+        Expect.same("33 no set with one service too many", z.cuts(11, 2), 0);
     }
 
     // Promise 35
@@ -180,6 +184,10 @@ public final class WithoutTimeTest {
         Expect.same("36 of several the lowest", x.weakest(0), 0);
         x.set(5, 1, 10);
         Expect.same("36 only the other one helps", x.weakest(0), 0);
+        ServiceBudgets z = Make.many(2);
+        z.set(5, 0, 500);
+        z.set(5, 1, 1000);
+        Expect.same("36 all the same when it never fails", z.weakest(1), 0);
         ServiceBudgets y = Make.many(4);
         y.addCall(3, 0, 5, 1, 1);
         y.addCall(3, 1, 5, 1, 0);
