@@ -7,15 +7,25 @@ final class Expect {
 
     private static int wrong = 0;
     private static int looked = 0;
+    /** What the answers are about, ahead of each line that is printed. */
+    private static String heading = "";
 
     private Expect() {
+    }
+
+    static void about(String what) {
+        heading = what + ": ";
+    }
+
+    static int looked() {
+        return looked;
     }
 
     static void same(String what, long got, long want) {
         looked++;
         if (got != want) {
             wrong++;
-            System.out.println(what + " answered " + got + ", due is " + want);
+            System.out.println(heading + what + " answered " + got + ", due is " + want);
         }
     }
 
@@ -40,7 +50,7 @@ final class Expect {
             got = e.toString();
         }
         wrong++;
-        System.out.println(what + " gave " + got + ", due is " + want.getSimpleName());
+        System.out.println(heading + what + " gave " + got + ", due is " + want.getSimpleName());
     }
 
     static void noSuch(String what, Action action) {

@@ -20,49 +20,31 @@ public final class RequestsTest {
         Expect.finish();
     }
 
-    private static void results(String name, ServiceBudgets x, int... due) {
-        for (int what = 0; what < 6; what++) {
-            Expect.same(name + " result(" + what + ")", x.result(what), due[what]);
-        }
-    }
-
-    private static void failure(String name, ServiceBudgets x, int k, int... due) {
-        for (int what = 0; what < 4; what++) {
-            Expect.same(name + " failure(" + k + ", " + what + ")", x.failure(k, what), due[what]);
-        }
-    }
-
-    private static void attempt(String name, ServiceBudgets x, int k, int... due) {
-        for (int what = 0; what < 4; what++) {
-            Expect.same(name + " attempt(" + k + ", " + what + ")", x.attempt(k, what), due[what]);
-        }
-    }
-
     private static void tooSlow() {
         String name = "14 too slow";
         ServiceBudgets x = Make.services(5, 10);
         x.addCall(0, 1, 8, 2, 0);
         Expect.no(name, x.request(0, 40));
-        results(name, x, 21, 0, 3, 2, 1, 3);
-        failure(name, x, 0, 1, 2, 13, 8);
-        failure(name, x, 1, 1, 2, 21, 8);
-        failure(name, x, 2, 0, 4, 21, 40);
-        failure(name, x, 3, NONE, NONE, NONE, NONE);
-        attempt(name, x, 0, 0, 5, 8, 0);
-        attempt(name, x, 1, 0, 13, 8, 0);
-        attempt(name, x, 2, NONE, NONE, NONE, NONE);
+        Notes.results(name, x, 21, 0, 3, 2, 1, 3);
+        Notes.failure(name, x, 0, 1, 2, 13, 8);
+        Notes.failure(name, x, 1, 1, 2, 21, 8);
+        Notes.failure(name, x, 2, 0, 4, 21, 40);
+        Notes.failure(name, x, 3, NONE, NONE, NONE, NONE);
+        Notes.attempt(name, x, 0, 0, 5, 8, 0);
+        Notes.attempt(name, x, 1, 0, 13, 8, 0);
+        Notes.attempt(name, x, 2, NONE, NONE, NONE, NONE);
         Expect.no("14 own time above the budget", x.request(0, 4));
-        results("14 own time above the budget", x, 4, 0, 1, 0, 0, 1);
-        failure("14 own time above the budget", x, 0, 0, 2, 4, 4);
+        Notes.results("14 own time above the budget", x, 4, 0, 1, 0, 0, 1);
+        Notes.failure("14 own time above the budget", x, 0, 0, 2, 4, 4);
         Expect.no("14 budget 0", x.request(0, 0));
-        results("14 budget 0", x, 0, 0, 1, 0, 0, 1);
-        failure("14 budget 0", x, 0, 0, 2, 0, 0);
+        Notes.results("14 budget 0", x, 0, 0, 1, 0, 0, 1);
+        Notes.failure("14 budget 0", x, 0, 0, 2, 0, 0);
         Expect.yes("14 own time as the budget", x.request(1, 10));
-        results("14 own time as the budget", x, 10, 0, 0, 0, NONE, 1);
+        Notes.results("14 own time as the budget", x, 10, 0, 0, 0, NONE, 1);
         x.fail(1);
         Expect.no("14 down", x.request(1, 10));
-        results("14 down", x, 0, 0, 1, 0, 1, 1);
-        failure("14 down", x, 0, 1, 1, 0, 10);
+        Notes.results("14 down", x, 0, 0, 1, 0, 1, 1);
+        Notes.failure("14 down", x, 0, 1, 1, 0, 10);
     }
 
     private static void replaced() {
@@ -74,16 +56,16 @@ public final class RequestsTest {
         x.addCall(0, 3, 10, 2, 2);
         x.fail(1);
         Expect.yes(name, x.request(0, 40));
-        results(name, x, 9, 0, 3, 4, NONE, 5);
+        Notes.results(name, x, 9, 0, 3, 4, NONE, 5);
         for (int k = 0; k < 3; k++) {
-            failure(name, x, k, 1, 1, 5, 8);
-            attempt(name, x, k, 0, 5, 8, 0);
+            Notes.failure(name, x, k, 1, 1, 5, 8);
+            Notes.attempt(name, x, k, 0, 5, 8, 0);
         }
-        attempt(name, x, 3, 2, 5, 10, 1);
+        Notes.attempt(name, x, 3, 2, 5, 10, 1);
         x.undo();
         Expect.yes("14 not replaced", x.request(0, 40));
-        results("14 not replaced", x, 8, 0, 0, 1, NONE, 2);
-        attempt("14 not replaced", x, 0, 0, 5, 8, 1);
+        Notes.results("14 not replaced", x, 8, 0, 0, 1, NONE, 2);
+        Notes.attempt("14 not replaced", x, 0, 0, 5, 8, 1);
     }
 
     private static void noTimeLeft() {
@@ -91,23 +73,23 @@ public final class RequestsTest {
         ServiceBudgets x = Make.services(5, 1, 1);
         x.addCall(0, 1, 9, 3, 1);
         Expect.yes("14 no time for what is optional", x.request(0, 5));
-        results("14 no time for what is optional", x, 5, 1, 1, 0, NONE, 1);
+        Notes.results("14 no time for what is optional", x, 5, 1, 1, 0, NONE, 1);
         x.addCall(0, 2, 9, 3, 0);
         x.addCall(0, 1, 9, 2, 2);
         Expect.no(name, x.request(0, 5));
-        results(name, x, 5, 1, 4, 0, 0, 1);
+        Notes.results(name, x, 5, 1, 4, 0, 0, 1);
         for (int k = 0; k < 3; k++) {
-            failure(name, x, k, 0, 3, 5, 5);
+            Notes.failure(name, x, k, 0, 3, 5, 5);
         }
-        failure(name, x, 3, 0, 4, 5, 5);
+        Notes.failure(name, x, 3, 0, 4, 5, 5);
         Expect.no("14 time for the first call alone", x.request(0, 6));
-        results("14 time for the first call alone", x, 6, 0, 3, 1, 0, 2);
+        Notes.results("14 time for the first call alone", x, 6, 0, 3, 1, 0, 2);
         ServiceBudgets y = Make.services(2, 3);
         y.addCall(0, 1, 2, 3, 0);
         Expect.no("14 no time for the third try", y.request(0, 6));
-        results("14 no time for the third try", y, 6, 0, 4, 2, 1, 3);
-        failure("14 no time for the third try", y, 2, 0, 3, 6, 6);
-        failure("14 no time for the third try", y, 3, 0, 4, 6, 6);
+        Notes.results("14 no time for the third try", y, 6, 0, 4, 2, 1, 3);
+        Notes.failure("14 no time for the third try", y, 2, 0, 3, 6, 6);
+        Notes.failure("14 no time for the third try", y, 3, 0, 4, 6, 6);
     }
 
     private static void blame() {
@@ -117,12 +99,12 @@ public final class RequestsTest {
         x.addCall(1, 2, 5, 1, 1);
         x.addCall(0, 3, 3, 1, 0);
         Expect.no(name, x.request(0, 10));
-        results(name, x, 6, 1, 3, 2, 3, 3);
-        failure(name, x, 0, 1, 3, 3, 2);
-        failure(name, x, 1, 3, 2, 6, 3);
-        failure(name, x, 2, 0, 4, 6, 10);
-        attempt(name, x, 0, 0, 1, 2, 1);
-        attempt(name, x, 1, 2, 3, 3, 0);
+        Notes.results(name, x, 6, 1, 3, 2, 3, 3);
+        Notes.failure(name, x, 0, 1, 3, 3, 2);
+        Notes.failure(name, x, 1, 3, 2, 6, 3);
+        Notes.failure(name, x, 2, 0, 4, 6, 10);
+        Notes.attempt(name, x, 0, 0, 1, 2, 1);
+        Notes.attempt(name, x, 1, 2, 3, 3, 0);
         ServiceBudgets y = Make.services(5, 3, 4, 1);
         y.addCall(0, 1, 8, 1, 0);
         y.addCall(0, 2, 2, 1, 2);
@@ -132,7 +114,7 @@ public final class RequestsTest {
         y.fail(1);
         y.fail(3);
         Expect.no("15 the first one of kind 1 or 2", y.request(0, 40));
-        results("15 the first one of kind 1 or 2", y, 7, 0, 4, 3, 1, 4);
+        Notes.results("15 the first one of kind 1 or 2", y, 7, 0, 4, 3, 1, 4);
         Expect.same("17 attempt(0, 3) then", y.attempt(0, 3), 0);
         ServiceBudgets z = Make.services(2, 3, 1);
         z.addCall(0, 1, 5, 1, 0);
@@ -149,12 +131,12 @@ public final class RequestsTest {
         ServiceBudgets x = Make.chain(12);
         Expect.no("14 a long chain without enough time", x.request(0, 11));
         Expect.same("14 its blame", x.result(4), 10);
-        results("14 a long chain without enough time", x, 11, 0, 12, 10, 10, 11);
-        failure("14 a long chain without enough time", x, 0, 10, 3, 11, 1);
+        Notes.results("14 a long chain without enough time", x, 11, 0, 12, 10, 10, 11);
+        Notes.failure("14 a long chain without enough time", x, 0, 10, 3, 11, 1);
         Expect.yes("14 a long chain", x.request(0, 12));
-        results("14 a long chain", x, 12, 0, 0, 11, NONE, 12);
+        Notes.results("14 a long chain", x, 12, 0, 0, 11, NONE, 12);
         for (int k = 0; k < 11; k++) {
-            attempt("14 a long chain", x, k, k, k + 1, 11 - k, 1);
+            Notes.attempt("14 a long chain", x, k, k, k + 1, 11 - k, 1);
         }
     }
 
@@ -168,14 +150,14 @@ public final class RequestsTest {
         }
         x.fail(2);
         Expect.no(name, x.request(0, 1000));
-        results(name, x, 37, 0, 60, 200, 2, 1 + 36 + 36 * 36);
-        failure(name, x, 36, 1, 4, 2, 500);
-        failure(name, x, 59, 2, 1, 3, 499);
-        failure(name, x, 60, NONE, NONE, NONE, NONE);
-        attempt(name, x, 0, 0, 1, 500, 0);
-        attempt(name, x, 1, 1, 2, 499, 0);
-        attempt(name, x, 199, 9, 7, 499, 0);
-        attempt(name, x, 200, NONE, NONE, NONE, NONE);
+        Notes.results(name, x, 37, 0, 60, 200, 2, 1 + 36 + 36 * 36);
+        Notes.failure(name, x, 36, 1, 4, 2, 500);
+        Notes.failure(name, x, 59, 2, 1, 3, 499);
+        Notes.failure(name, x, 60, NONE, NONE, NONE, NONE);
+        Notes.attempt(name, x, 0, 0, 1, 500, 0);
+        Notes.attempt(name, x, 1, 1, 2, 499, 0);
+        Notes.attempt(name, x, 199, 9, 7, 499, 0);
+        Notes.attempt(name, x, 200, NONE, NONE, NONE, NONE);
         x.request(2, 1);
         Expect.same("14 the notes of an earlier request", x.attempt(0, 0), NONE);
         Expect.same("14 the failures of an earlier request", x.failure(1, 0), NONE);
@@ -192,8 +174,8 @@ public final class RequestsTest {
         x.addCall(0, 3, 5, 1, 0);
         x.fail(3);
         Expect.no("15 blame beyond the notes", x.request(0, 100));
-        results("15 blame beyond the notes", x, 12, 132, 60, 12, 3, 13);
-        failure("15 blame beyond the notes", x, 59, 1, 3, 6, 1);
+        Notes.results("15 blame beyond the notes", x, 12, 132, 60, 12, 3, 13);
+        Notes.failure("15 blame beyond the notes", x, 59, 1, 3, 6, 1);
     }
 
     private static void ranges() {
