@@ -1,5 +1,6 @@
 import java.util.Arrays;
 import java.util.function.IntPredicate;
+import java.util.function.ToDoubleFunction;
 
 /** The edges of WITHOUT TIME and of promises 32 to 36. */
 final class SetEdges {
@@ -317,9 +318,12 @@ final class SetEdges {
         for (int[] row : reliabilities) {
             ServiceBudgets x = reliable(groups(), row);
             for (int service = 0; service < 7; service++) {
-                Expect.same("service " + service + " of a row", x.weakest(service), literalWeakest(row, service));
+                int s = service;
+                int due = literalWeakest(row, r -> sumOfGroups(r, s));
+                Expect.same("service " + s + " of a row", x.weakest(s), due);
             }
         }
+        weakestByRounding();
         Twins.changesNothing("weakest()", Make::busy, x -> x.weakest(0));
         Sentences.about(36, "Returns the service.");
         Expect.same("the only one", Make.many(1).weakest(0), 0);
@@ -336,13 +340,27 @@ final class SetEdges {
         Twins.noSuch("service 12", Make::full, x -> x.weakest(12));
     }
 
-    private static int literalWeakest(int[] reliabilities, int service) {
+    /** The given service never fails: the sums differ in nothing but the last bits of double arithmetic. */
+    private static void weakestByRounding() {
+        int[][] reliabilities = {{562, 1000, 966, 238, 222}, {767, 262, 823, 1000, 720}, {1000, 420, 283, 580},
+            {1000, 803, 925, 698, 52}, {410, 100, 574, 1000, 57}, {429, 966, 187, 324, 1000}};
+        int[] given = {1, 3, 0, 0, 3, 4};
+        int[] due = {3, 2, 2, 4, 1, 2};
+        for (int k = 0; k < given.length; k++) {
+            int[] row = reliabilities[k];
+            int service = given[k];
+            Expect.same("the literal one by the last bits", literalWeakest(row, r -> sumAlone(r, service)), due[k]);
+            Expect.same("by the last bits", reliable(Make.many(row.length), row).weakest(service), due[k]);
+        }
+    }
+
+    private static int literalWeakest(int[] reliabilities, ToDoubleFunction<int[]> availability) {
         int best = NONE;
         double greatest = 0.0;
-        for (int perfect = 0; perfect < 7; perfect++) {
+        for (int perfect = 0; perfect < reliabilities.length; perfect++) {
             int[] row = reliabilities.clone();
             row[perfect] = 1000;
-            double chance = sumOfGroups(row, service);
+            double chance = availability.applyAsDouble(row);
             if (best == NONE || chance > greatest) {
                 best = perfect;
                 greatest = chance;
